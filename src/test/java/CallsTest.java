@@ -1,0 +1,638 @@
+/** Promises 1 to 5 and 7 to 39: each call by itself, with the edges and the wrong inputs that it names. */
+public final class CallsTest {
+  private static final int NONE = -1;
+  private static final Checks t = new Checks();
+
+  public static void main(String[] args) {
+    newObject();
+    token();
+    three();
+    drop();
+    wipe();
+    fresh();
+    knock();
+    tokenAt();
+    fault();
+    item();
+    name();
+    cost();
+    done();
+    state();
+    matrix();
+    ringAndPoint();
+    form();
+    has();
+    dotsAndMoved();
+    inverse();
+    halves();
+    figure();
+    last();
+    dotRowCount();
+    bands();
+    runs();
+    page();
+    sound();
+    digest();
+    t.end();
+  }
+
+  private static void isAsAtFirst(Plateroomprinter x) {
+    for (int k = 0; k < 3; k++) {
+      t.due("fault " + k, x.fault(k), k == 0 ? 0 : NONE);
+      t.due("cost " + k, x.cost(k), 0);
+    }
+    t.due("items", x.items(), 0);
+    for (int k = 0; k < 10; k++) {
+      t.due("name " + k, x.name(k, 0), NONE);
+      t.due("name " + k, x.name(k, 1), 0);
+    }
+    for (int k = 0; k < 53; k++) {
+      t.due("done " + k, x.done(k), 0);
+    }
+    int[] state = {1, 0, 0, 1, 0, 0, 0, 16, 0, 0, 0, 0, 0, 1024, 0};
+    for (int k = 0; k < state.length; k++) {
+      t.due("state " + k, x.state(k), state[k]);
+    }
+    for (int k = 0; k < 6; k++) {
+      t.due("numerator " + k, x.matrix(k, 0), k == 0 || k == 3 ? 1 : 0);
+      t.due("denominator " + k, x.matrix(k, 1), 1);
+      t.due("page " + k, x.page(k), 0);
+    }
+    for (int k = 0; k < 5; k++) {
+      t.due("form " + k, x.form(k, 0) + x.form(k, 1) + x.form(k, 2), 0);
+    }
+    t.due("figures", x.figures(), 0);
+    for (int plate = 0; plate < 4; plate++) {
+      t.due("plate " + plate, x.count(plate), 0);
+    }
+    t.due("last page", x.lastDot(0, 0), NONE);
+    t.due("last figure", x.last(0, 0), NONE);
+    t.yes("sound", x.isSound());
+  }
+
+  private static void newObject() {
+    Plateroomprinter x = new Plateroomprinter();
+    t.due("tokens", x.tokens(), 0);
+    isAsAtFirst(x);
+    t.due("knock", x.knock(), 1);
+    Plateroomprinter y = new Plateroomprinter();
+    t.due("objects share nothing", y.knock(), 1);
+  }
+
+  private static void token() {
+    Plateroomprinter x = new Plateroomprinter();
+    int[][] good = {{0, -9999}, {0, 9999}, {0, 0}, {1, 0}, {1, 52}, {2, 0}, {2, 9}, {3, 0}, {3, 9}, {4, 0}, {5, 0}};
+    int[][] bad = {
+      {0, -10000}, {0, 10000}, {1, -1}, {1, 53}, {2, -1}, {2, 10}, {3, -1}, {3, 10}, {4, 1}, {4, -1},
+      {5, 1}, {5, -1}, {6, 0}, {-1, 0}, {Integer.MAX_VALUE, 0}, {0, Integer.MIN_VALUE}
+    };
+    for (int k = 0; k < good.length; k++) {
+      t.due("token", x.token(good[k][0], good[k][1]), k + 1);
+    }
+    for (int[] b : bad) {
+      t.illegalArgument("token " + b[0] + " " + b[1], () -> x.token(b[0], b[1]));
+      t.illegalArgument("first of three", () -> x.three(b[0], b[1], 0, 0, 0, 0));
+      t.illegalArgument("second of three", () -> x.three(0, 0, b[0], b[1], 0, 0));
+      t.illegalArgument("last of three", () -> x.three(0, 0, 0, 0, b[0], b[1]));
+    }
+    t.due("nothing came", x.tokens(), good.length);
+    for (int k = 0; k < good.length; k++) {
+      t.due("kind", x.tokenAt(k, 0), good[k][0]);
+      t.due("number", x.tokenAt(k, 1), good[k][1]);
+    }
+  }
+
+  private static void three() {
+    Plateroomprinter x = new Plateroomprinter();
+    t.due("three", x.three(0, 5, 1, 6, 2, 7), 3);
+    int[] due = {0, 5, 1, 6, 2, 7};
+    for (int k = 0; k < 6; k++) {
+      t.due("part " + k, x.tokenAt(k / 2, k % 2), due[k]);
+    }
+    for (int k = 1; k < 132; k++) {
+      x.three(0, k, 0, k, 0, k);
+    }
+    t.due("396 and one", x.token(0, 1), 397);
+    t.due("three more", x.three(0, 1, 0, 2, 0, 3), 400);
+    t.illegalState("token 401", () -> x.token(0, 1));
+    t.illegalArgument("wrong and full", () -> x.token(0, 10000));
+    t.illegalState("three", () -> x.three(0, 1, 0, 1, 0, 1));
+    t.illegalArgument("wrong and full", () -> x.three(0, 1, 0, 1, 1, 53));
+    for (int k = 0; k < 2; k++) {
+      x.drop();
+      t.illegalState("room for " + (k + 1), () -> x.three(0, 1, 0, 1, 0, 1));
+    }
+    t.due("tokens", x.tokens(), 398);
+    t.due("one", x.token(0, 9), 399);
+  }
+
+  private static void drop() {
+    Plateroomprinter x = new Plateroomprinter();
+    t.illegalState("drop", x::drop);
+    x.three(0, 5, 1, 6, 3, 7);
+    t.due("drop", x.drop(), 3);
+    t.due("drop", x.drop(), 1);
+    t.due("tokens", x.tokens(), 1);
+    t.due("the first stays", x.tokenAt(0, 1), 5);
+    t.due("drop", x.drop(), 0);
+    t.illegalState("drop", x::drop);
+    x.run();
+    Checks.run(x, "1 2");
+    t.illegalState("drop behind a run", x::drop);
+  }
+
+  private static void wipe() {
+    Plateroomprinter x = new Plateroomprinter();
+    t.due("wipe", x.wipe(), 0);
+    x.three(0, 5, 1, 6, 3, 7);
+    t.due("wipe", x.wipe(), 3);
+    t.due("tokens", x.tokens(), 0);
+    t.due("wipe", x.wipe(), 0);
+  }
+
+  private static final String ALL = "1 /2 [ 3 ] /4 5 def 3 pen 1 cap 1 join 2 size 1 2 3 4 colour 2 3 move "
+      + "1 1 9 9 box 2 keep fill page 2 2 9 9 box fill 1 1 to 3 show 2 2 3 3 box clip 5 5 to 6 6 line save";
+
+  private static void fresh() {
+    Plateroomprinter x = t.after(ALL, "page 0 0 to");
+    x.knock();
+    x.knock();
+    t.due("a fault", Checks.run(x, "1 0 div"), 4);
+    t.due("printed before", x.fresh(), 2);
+    isAsAtFirst(x);
+    t.due("the program stays", x.tokens(), 3);
+    t.due("the refused stay", x.knock(), 3);
+    t.due("fresh", x.fresh(), 0);
+    x.wipe();
+    t.due("run", Checks.run(x, "1 1 2 2 box fill"), 0);
+    t.due("count", x.count(3), 4);
+    t.fault(x, 5, "0 0 2 !use");
+    t.fault(x, 1, "!restore");
+    t.fault(x, 5, "!@4");
+  }
+
+  private static void knock() {
+    Plateroomprinter x = new Plateroomprinter();
+    for (int k = 1; k < 5; k++) {
+      t.due("knock", x.knock(), k);
+    }
+    Checks.run(x, "div");
+    t.due("knock", x.knock(), 5);
+  }
+
+  private static void tokenAt() {
+    Plateroomprinter x = new Plateroomprinter();
+    t.outOfBounds("no place", () -> x.tokenAt(0, 0));
+    x.token(1, 7);
+    t.due("kind", x.tokenAt(0, 0), 1);
+    t.due("number", x.tokenAt(0, 1), 7);
+    t.outOfBounds("place", () -> x.tokenAt(1, 0));
+    t.outOfBounds("place", () -> x.tokenAt(-1, 0));
+    t.outOfBounds("place ahead of what", () -> x.tokenAt(1, 2));
+    t.illegalArgument("what", () -> x.tokenAt(0, 2));
+    t.illegalArgument("what", () -> x.tokenAt(0, -1));
+    t.due("tokens", x.tokens(), 1);
+    x.wipe();
+    Checks.run(x, "1 2");
+    x.token(2, 5);
+    t.due("behind a run", x.tokenAt(0, 1), 5);
+    t.outOfBounds("behind a run", () -> x.tokenAt(1, 0));
+    t.outOfBounds("behind a run", () -> x.tokenAt(-1, 0));
+  }
+
+  private static void fault() {
+    Plateroomprinter x = t.after("/0 [ 1 2 3 @1 ] def");
+    Checks.run(x, "1 pop @0");
+    t.due("code", x.fault(0), 5);
+    t.due("place", x.fault(1), 2);
+    t.due("own place", x.fault(2), 3);
+    t.illegalArgument("what", () -> x.fault(3));
+    t.illegalArgument("what", () -> x.fault(-1));
+    x.wipe();
+    t.due("it stays", x.fault(0), 5);
+  }
+
+  private static void item() {
+    Plateroomprinter x = t.after("-5 /2 [ 3 4 [ ] ]");
+    int[][] due = {{2, 4}, {1, 2}, {0, -5}};
+    for (int k = 0; k < 3; k++) {
+      t.due("sort of " + k, x.item(k, 0), due[k][0]);
+      t.due("value of " + k, x.item(k, 1), due[k][1]);
+    }
+    t.outOfBounds("place", () -> x.item(3, 0));
+    t.outOfBounds("place", () -> x.item(-1, 0));
+    t.outOfBounds("place ahead of what", () -> x.item(3, 2));
+    t.illegalArgument("what", () -> x.item(2, 2));
+    t.illegalArgument("what", () -> x.item(0, -1));
+    t.due("items", x.items(), 3);
+  }
+
+  private static void name() {
+    Plateroomprinter x = t.after("/0 -5 def /9 /2 def /3 [ 1 2 ] def");
+    int[][] due = {{0, -5}, {NONE, 0}, {NONE, 0}, {2, 2}, {NONE, 0}, {NONE, 0}, {NONE, 0}, {NONE, 0}, {NONE, 0}, {1, 2}};
+    for (int k = 0; k < 10; k++) {
+      t.due("sort of " + k, x.name(k, 0), due[k][0]);
+      t.due("value of " + k, x.name(k, 1), due[k][1]);
+    }
+    t.outOfBounds("name", () -> x.name(10, 0));
+    t.outOfBounds("name", () -> x.name(-1, 0));
+    t.outOfBounds("name ahead of what", () -> x.name(10, 2));
+    t.illegalArgument("what", () -> x.name(1, 2));
+    t.illegalArgument("what", () -> x.name(0, -1));
+  }
+
+  private static void cost() {
+    Plateroomprinter x = t.after("1 2 add", "2 [ 7 pop ] repeat pop");
+    t.due("all", x.cost(0), 3 + 10);
+    t.due("last", x.cost(1), 10);
+    t.due("tokens", x.cost(2), 3 + 8);
+    Checks.run(x, "1 2 3 div div div");
+    t.due("a fault is not told", x.cost(0), 13);
+    t.due("last", x.cost(1), 10);
+    x.wipe();
+    x.run();
+    t.due("an empty one is", x.cost(1), 0);
+    t.due("all", x.cost(0), 13);
+    t.illegalArgument("what", () -> x.cost(3));
+    t.illegalArgument("what", () -> x.cost(-1));
+  }
+
+  private static void done() {
+    Plateroomprinter x = t.after("3 [ 1 2 add pop ] repeat 0 [ exit ] if", "1 2 add");
+    t.due("add", x.done(0), 4);
+    t.due("pop", x.done(10), 3);
+    t.due("repeat", x.done(18), 1);
+    t.due("if", x.done(16), 1);
+    t.due("exit", x.done(20), 0);
+    Checks.run(x, "1 2 add pop pop pop pop");
+    t.due("a fault is not told", x.done(0), 4);
+    t.due("the last order", t.after("page page").done(52), 2);
+    t.outOfBounds("order", () -> x.done(53));
+    t.outOfBounds("order", () -> x.done(-1));
+  }
+
+  private static void state() {
+    Plateroomprinter x = t.after(
+        "3 pen 1 cap 1 join 2 size 1 2 3 4 colour 1 1 5 5 box clip 2 3 4 5 box -4 -5 to 6 6 line save save");
+    int[] due = {3, 1, 1, 2, 1, 2, 3, 4, 1, 96, 96, 2, 6, 25, 2};
+    for (int k = 0; k < due.length; k++) {
+      t.due("state " + k, x.state(k), due[k]);
+    }
+    t.illegalArgument("what", () -> x.state(15));
+    t.illegalArgument("what", () -> x.state(-1));
+    Checks.run(x, "-7 -8 to");
+    t.due("x", x.state(9), -112);
+    t.due("y", x.state(10), -128);
+    Checks.run(x, "new");
+    t.due("no point", x.state(8), 0);
+    t.due("x", x.state(9), 0);
+    t.due("y", x.state(10), 0);
+  }
+
+  private static void matrix() {
+    Plateroomprinter x = t.after("2 4 -3 6 scale 1 3 slant 5 7 move");
+    int[] due = {1, 2, 0, 1, 1, 6, -1, 2, 11, 3, -7, 2};
+    for (int k = 0; k < 12; k++) {
+      t.due("entry " + k / 2, x.matrix(k / 2, k % 2), due[k]);
+    }
+    t.outOfBounds("entry", () -> x.matrix(6, 0));
+    t.outOfBounds("entry", () -> x.matrix(-1, 0));
+    t.outOfBounds("entry ahead of part", () -> x.matrix(6, 2));
+    t.illegalArgument("part", () -> x.matrix(5, 2));
+    t.illegalArgument("part", () -> x.matrix(0, -1));
+  }
+
+  private static void ringAndPoint() {
+    Plateroomprinter x = t.after("1 1 2 3 box 5 6 to 7 8 line");
+    t.ring(x, 0, 1, 16, 16, 48, 16, 48, 64, 16, 64);
+    t.ring(x, 1, 0, 80, 96, 112, 128);
+    t.outOfBounds("ring", () -> x.ring(2, 0));
+    t.outOfBounds("ring", () -> x.ring(-1, 0));
+    t.outOfBounds("ring ahead of what", () -> x.ring(2, 2));
+    t.illegalArgument("what", () -> x.ring(1, 2));
+    t.illegalArgument("what", () -> x.ring(0, -1));
+    t.outOfBounds("ring", () -> x.point(2, 0, 0));
+    t.outOfBounds("ring", () -> x.point(-1, 0, 0));
+    t.outOfBounds("point", () -> x.point(0, 4, 0));
+    t.outOfBounds("point", () -> x.point(0, -1, 0));
+    t.outOfBounds("point", () -> x.point(1, 2, 0));
+    t.outOfBounds("point ahead of what", () -> x.point(1, 2, 2));
+    t.illegalArgument("what", () -> x.point(1, 1, 2));
+    t.illegalArgument("what", () -> x.point(0, 0, -1));
+    Plateroomprinter y = new Plateroomprinter();
+    t.outOfBounds("no ring", () -> y.ring(0, 0));
+    t.outOfBounds("no ring", () -> y.point(0, 0, 0));
+  }
+
+  private static void form() {
+    Plateroomprinter x = t.after("0 keep 1 1 2 3 box 5 6 to 7 8 line 4 keep");
+    int[][] due = {{1, 0, 0}, {0, 0, 0}, {0, 0, 0}, {0, 0, 0}, {1, 2, 6}};
+    for (int k = 0; k < 5; k++) {
+      for (int n = 0; n < 3; n++) {
+        t.due("form " + k, x.form(k, n), due[k][n]);
+      }
+    }
+    t.outOfBounds("form", () -> x.form(5, 0));
+    t.outOfBounds("form", () -> x.form(-1, 0));
+    t.outOfBounds("form ahead of what", () -> x.form(5, 3));
+    t.illegalArgument("what", () -> x.form(1, 3));
+    t.illegalArgument("what", () -> x.form(4, -1));
+  }
+
+  private static final String TWICE = "2 2 6 6 box 4 4 2 2 box ";
+
+  private static void has() {
+    Plateroomprinter x = t.after("9 9 2 2 box clip " + TWICE);
+    t.yes("a dot", x.has(2, 2, 0));
+    t.yes("a dot", x.has(7, 7, 1));
+    t.no("none", x.has(8, 2, 0));
+    t.no("none", x.has(2, 8, 1));
+    t.no("in twice, by even", x.has(4, 5, 0));
+    t.yes("in twice, by turns", x.has(4, 5, 1));
+    t.no("far off", x.has(31, 31, 1));
+    t.outOfBounds("x", () -> x.has(32, 0, 0));
+    t.outOfBounds("x", () -> x.has(-1, 0, 0));
+    t.outOfBounds("y", () -> x.has(0, 32, 0));
+    t.outOfBounds("y", () -> x.has(0, -1, 0));
+    t.outOfBounds("y ahead of rule", () -> x.has(0, 32, 2));
+    t.illegalArgument("rule", () -> x.has(0, 0, 2));
+    t.illegalArgument("rule", () -> x.has(0, 0, -1));
+    t.no("without a path", new Plateroomprinter().has(0, 0, 1));
+  }
+
+  private static void dotsAndMoved() {
+    Plateroomprinter x = t.after("9 9 2 2 box clip " + TWICE);
+    t.due("even", x.dots(0), 32);
+    t.due("turns", x.dots(1), 36);
+    t.illegalArgument("rule", () -> x.dots(2));
+    t.illegalArgument("rule", () -> x.dots(-1));
+    t.due("moved", x.moved(3, -2, 0), 32);
+    t.due("moved", x.moved(24, 0, 1), 36);
+    t.due("half off the page", x.moved(27, 0, 1), 18);
+    t.due("half off the page", x.moved(0, -5, 1), 18);
+    t.due("even", x.moved(27, 0, 0), 16);
+    t.due("off the page", x.moved(-40, 40, 1), 0);
+    t.due("off the page", x.moved(40, -40, 1), 0);
+    t.due("the path stays", x.point(0, 0, 0), 32);
+    t.illegalArgument("dx", () -> x.moved(41, 0, 0));
+    t.illegalArgument("dx", () -> x.moved(-41, 0, 0));
+    t.illegalArgument("dy", () -> x.moved(0, 41, 0));
+    t.illegalArgument("dy", () -> x.moved(0, -41, 0));
+    t.illegalArgument("rule", () -> x.moved(0, 0, 2));
+    t.illegalArgument("rule", () -> x.moved(0, 0, -1));
+    Plateroomprinter y = t.after("-10 -10 5 5 box");
+    t.due("brought onto the page", y.moved(20, 20, 1), 25);
+  }
+
+  private static void inverse() {
+    t.due("of a path", t.after(TWICE).inverse(), 1024 - 32);
+    t.due("of none", new Plateroomprinter().inverse(), 1024);
+    t.due("of all", t.after("-9 -9 90 90 box").inverse(), 0);
+    Plateroomprinter x = t.after(TWICE);
+    x.inverse();
+    t.due("the path stays", x.state(11), 2);
+  }
+
+  private static void halves() {
+    // A square of 6 by 6 dots, split from corner to corner.
+    Plateroomprinter x = t.after("2 2 to 8 2 line 8 8 line 2 8 line 0 0 to");
+    t.due("the ring", x.halves(0, 0, 2, 0), 36);
+    t.due("first half", x.halves(0, 0, 2, 1), 21);
+    t.due("second half", x.halves(0, 0, 2, 2), 15);
+    t.due("both", x.halves(0, 0, 2, 3), 0);
+    t.due("just one", x.halves(0, 0, 2, 4), 36);
+    t.due("first half", x.halves(0, 1, 3, 1) + x.halves(0, 1, 3, 2), 36);
+    t.due("nothing", x.halves(0, 0, 1, 1), 0);
+    t.due("all", x.halves(0, 0, 1, 2), 36);
+    t.due("all", x.halves(0, 0, 3, 1), 36);
+    // Around the one half, and once more through it: both halves have what just one of them has not.
+    Plateroomprinter y = t.after("2 2 to 8 2 line 8 8 line 2 8 line 2 2 line 6 2 line 6 6 line 2 6 line");
+    t.due("ring", y.halves(0, 0, 4, 0), 20);
+    t.due("first", y.halves(0, 0, 4, 1), 36);
+    t.due("second", y.halves(0, 0, 4, 2), 16);
+    t.due("both", y.halves(0, 0, 4, 3), 16);
+    t.due("just one", y.halves(0, 0, 4, 4), 20);
+    t.outOfBounds("ring", () -> x.halves(2, 0, 2, 0));
+    t.outOfBounds("ring", () -> x.halves(-1, 0, 2, 0));
+    t.outOfBounds("from", () -> x.halves(0, -1, 2, 0));
+    t.outOfBounds("from", () -> x.halves(0, 4, 2, 0));
+    t.outOfBounds("to", () -> x.halves(0, 0, 4, 0));
+    t.outOfBounds("to", () -> x.halves(0, 0, -1, 0));
+    t.outOfBounds("to", () -> x.halves(1, 0, 1, 0));
+    t.outOfBounds("ahead of what", () -> x.halves(0, 0, 4, 5));
+    t.illegalArgument("to not above from", () -> x.halves(0, 2, 2, 0));
+    t.illegalArgument("to not above from", () -> x.halves(0, 2, 1, 0));
+    t.illegalArgument("what", () -> x.halves(0, 0, 2, 5));
+    t.illegalArgument("what", () -> x.halves(0, 0, 2, -1));
+  }
+
+  private static void figure() {
+    Plateroomprinter x = t.after("1 2 3 4 colour 2 2 6 6 box 20 20 to fill 9 grey 1 1 to 5 1 line 5 5 line 1 cap 2 pen stroke");
+    int[][] due = {{36, 1, 5, 1, 2, 3, 4}, {19, 4, 16, 0, 0, 0, 9}};
+    for (int k = 0; k < 2; k++) {
+      for (int n = 0; n < 7; n++) {
+        t.due("figure " + k + ", " + n, x.figure(k, n), due[k][n]);
+      }
+    }
+    t.due("figures", x.figures(), 2);
+    t.outOfBounds("figure", () -> x.figure(2, 0));
+    t.outOfBounds("figure", () -> x.figure(-1, 0));
+    t.outOfBounds("figure ahead of what", () -> x.figure(2, 7));
+    t.illegalArgument("what", () -> x.figure(1, 7));
+    t.illegalArgument("what", () -> x.figure(0, -1));
+  }
+
+  private static void last() {
+    Plateroomprinter x = t.after("0 0 4 4 box fill 2 2 4 4 box fill 0 0 to fill 0 grey 3 3 2 2 box fill");
+    t.due("the first", x.last(0, 0), 0);
+    t.due("the second", x.last(2, 2), 1);
+    t.due("the fourth", x.last(3, 3), 3);
+    t.due("none", x.last(6, 6), NONE);
+    t.due("none", x.last(31, 31), NONE);
+    t.outOfBounds("x", () -> x.last(32, 0));
+    t.outOfBounds("x", () -> x.last(-1, 0));
+    t.outOfBounds("y", () -> x.last(0, 32));
+    t.outOfBounds("y", () -> x.last(0, -1));
+    Checks.run(x, "page");
+    t.due("an empty list", x.last(3, 3), NONE);
+  }
+
+  private static void dotRowCount() {
+    Plateroomprinter x = t.after("16 0 16 0 colour 31 30 1 2 box fill 0 16 0 16 colour 0 0 3 1 box fill");
+    t.due("dot", x.dot(31, 31), 5);
+    t.due("dot", x.dot(0, 0), 10);
+    t.due("dot", x.dot(3, 0), 0);
+    t.due("row", x.row(0, 31), Integer.MIN_VALUE);
+    t.due("row", x.row(1, 0), 7);
+    t.due("row", x.row(2, 29), 0);
+    t.due("row", x.row(3, 31), 0);
+    t.due("count", x.count(0), 2);
+    t.due("count", x.count(3), 3);
+    t.outOfBounds("x", () -> x.dot(32, 0));
+    t.outOfBounds("x", () -> x.dot(-1, 0));
+    t.outOfBounds("y", () -> x.dot(0, 32));
+    t.outOfBounds("y", () -> x.dot(0, -1));
+    t.outOfBounds("plate", () -> x.row(4, 0));
+    t.outOfBounds("plate", () -> x.row(-1, 0));
+    t.outOfBounds("y", () -> x.row(0, 32));
+    t.outOfBounds("y", () -> x.row(0, -1));
+    t.outOfBounds("plate", () -> x.count(4));
+    t.outOfBounds("plate", () -> x.count(-1));
+  }
+
+  private static void bands() {
+    Plateroomprinter x = t.after("0 0 20 20 box fill 5 grey 3 3 20 20 box fill 9 9 to 5 size 3 3 0 0 colour 8 show",
+        "whole 1 1 9 31 box evenclip 16 grey 0 0 to 31 31 line 0 31 line fill");
+    for (int height = 1; height <= 32; height++) {
+      t.yes("bands of " + height, x.bands(height));
+    }
+    t.illegalArgument("height", () -> x.bands(0));
+    t.illegalArgument("height", () -> x.bands(33));
+    t.illegalArgument("height", () -> x.bands(-1));
+    Checks.run(x, "page");
+    t.yes("an empty page", x.bands(5));
+  }
+
+  private static void runsAre(Plateroomprinter x, int plate, int... due) {
+    t.due("runs", x.runs(plate), due.length);
+    for (int k = 0; k < due.length; k++) {
+      t.due("number " + k, x.runAt(plate, k), due[k]);
+    }
+    t.outOfBounds("place", () -> x.runAt(plate, due.length));
+    t.outOfBounds("place", () -> x.runAt(plate, -1));
+  }
+
+  private static void runs() {
+    runsAre(new Plateroomprinter(), 0, 99, 0, 99, 0, 99, 0, 99, 0, 99, 0, 99, 0, 99, 0, 99, 0, 99, 0, 99, 0, 34);
+    runsAre(t.after("0 0 32 32 box fill"), 3,
+        0, 99, 0, 99, 0, 99, 0, 99, 0, 99, 0, 99, 0, 99, 0, 99, 0, 99, 0, 99, 0, 34);
+    Plateroomprinter x = t.after("0 0 32 3 box fill 0 3 3 1 box fill 7 31 25 1 box fill");
+    runsAre(x, 3, 0, 99, 99, 0, 99, 0, 99, 0, 99, 0, 99, 0, 99, 0, 99, 0, 99, 0, 99, 0, 9, 25);
+    x = t.after("0 0 32 3 box fill 0 3 4 1 box fill 10 3 1 1 box fill");
+    t.due("a hundred", x.runAt(3, 0) + x.runAt(3, 1), 99);
+    t.due("its zero", x.runAt(3, 2), 0);
+    t.due("its rest", x.runAt(3, 3), 1);
+    t.due("off", x.runAt(3, 4), 6);
+    t.due("on", x.runAt(3, 5), 1);
+    Plateroomprinter y = new Plateroomprinter();
+    t.outOfBounds("plate", () -> y.runs(4));
+    t.outOfBounds("plate", () -> y.runs(-1));
+    t.outOfBounds("plate", () -> y.runAt(4, 0));
+    t.outOfBounds("plate", () -> y.runAt(-1, 0));
+    // Every other dot is a number of its own.
+    Plateroomprinter z = t.after("16 [ 0 0 1 32 box 2 0 move ] repeat fill");
+    t.due("most runs", z.runs(3), 1025);
+    t.due("the last one", z.runAt(3, 1024), 1);
+    t.outOfBounds("behind it", () -> z.runAt(3, 1025));
+  }
+
+  private static void page() {
+    Plateroomprinter x = new Plateroomprinter();
+    t.due("no last page", x.lastDot(3, 3), NONE);
+    t.due("none", x.page(5), 0);
+    Checks.run(x, "16 0 0 0 colour 0 0 4 4 box fill 0 16 16 0 colour 3 3 2 1 box fill 0 0 0 0 colour 0 0 2 1 box fill page");
+    int[] due = {1, 16 - 1 - 2, 2, 2, 0, 16 + 1 - 2};
+    for (int k = 0; k < 6; k++) {
+      t.due("page " + k, x.page(k), due[k]);
+    }
+    t.due("dot", x.lastDot(3, 3), 6);
+    t.due("dot", x.lastDot(2, 2), 1);
+    t.due("dot", x.lastDot(0, 0), 0);
+    t.due("dot", x.lastDot(31, 31), 0);
+    t.outOfBounds("x", () -> x.lastDot(32, 0));
+    t.outOfBounds("x", () -> x.lastDot(-1, 0));
+    t.outOfBounds("y", () -> x.lastDot(0, 32));
+    t.outOfBounds("y", () -> x.lastDot(0, -1));
+    t.illegalArgument("what", () -> x.page(6));
+    t.illegalArgument("what", () -> x.page(-1));
+    Plateroomprinter y = new Plateroomprinter();
+    t.outOfBounds("also without one", () -> y.lastDot(32, 0));
+  }
+
+  private static void sound() {
+    t.yes("a new one", new Plateroomprinter().isSound());
+    Plateroomprinter x = t.after(ALL, TWICE + "1 1 to 20 3 line 3 20 line 20 20 line 9 0 line");
+    long digest = x.digest();
+    t.yes("sound", x.isSound());
+    t.due("nothing is changed", x.digest(), digest);
+    Checks.run(x, "div");
+    t.yes("with a fault", x.isSound());
+  }
+
+  private static long told;
+
+  private static void tell(long... values) {
+    for (long v : values) {
+      told = told * 31 + v;
+    }
+  }
+
+  /** The checksum once more, from the answers of all other calls. */
+  private static long digestOf(Plateroomprinter x) {
+    told = 6405;
+    tell(x.tokens());
+    for (int k = 0; k < x.tokens(); k++) {
+      tell(x.tokenAt(k, 0), x.tokenAt(k, 1));
+    }
+    tell(x.fault(0), x.fault(1), x.fault(2), x.items());
+    for (int k = 0; k < x.items(); k++) {
+      tell(x.item(k, 0), x.item(k, 1));
+    }
+    for (int k = 0; k < 10; k++) {
+      tell(x.name(k, 0), x.name(k, 1));
+    }
+    tell(x.cost(0), x.cost(1), x.cost(2));
+    for (int k = 0; k < 53; k++) {
+      tell(x.done(k));
+    }
+    for (int k = 0; k < 15; k++) {
+      tell(x.state(k));
+    }
+    for (int k = 0; k < 6; k++) {
+      tell(x.matrix(k, 0), x.matrix(k, 1));
+    }
+    for (int k = 0; k < x.state(11); k++) {
+      tell(x.ring(k, 0), x.ring(k, 1));
+      for (int n = 0; n < x.ring(k, 0); n++) {
+        tell(x.point(k, n, 0), x.point(k, n, 1));
+      }
+    }
+    for (int k = 0; k < 5; k++) {
+      tell(x.form(k, 0), x.form(k, 1), x.form(k, 2));
+    }
+    tell(x.dots(0), x.dots(1), x.inverse(), x.figures());
+    for (int k = 0; k < x.figures(); k++) {
+      for (int n = 0; n < 7; n++) {
+        tell(x.figure(k, n));
+      }
+    }
+    for (int plate = 0; plate < 4; plate++) {
+      for (int y = 0; y < 32; y++) {
+        tell(x.row(plate, y));
+      }
+      tell(x.count(plate), x.runs(plate));
+    }
+    for (int k = 0; k < 6; k++) {
+      tell(x.page(k));
+    }
+    tell(x.isSound() ? 1 : 0);
+    return told;
+  }
+
+  private static void digest() {
+    Plateroomprinter x = new Plateroomprinter();
+    t.due("of a new one", x.digest(), digestOf(x));
+    String[] texts = {ALL, TWICE + "1 1 to 20 3 line 3 20 line", "1 0 div", "1 2 4 5", "0 0 to 1 keep 15 1 set page", "]"};
+    for (String text : texts) {
+      Checks.write(x, text);
+      t.due("ahead of the run of " + text, x.digest(), digestOf(x));
+      x.run();
+      t.due("behind it", x.digest(), digestOf(x));
+      x.wipe();
+    }
+    x.knock();
+    long d = x.digest();
+    x.knock();
+    t.due("the refused are not told", x.digest(), d);
+  }
+}
