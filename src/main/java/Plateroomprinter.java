@@ -590,7 +590,7 @@ public final class Plateroomprinter {
     return agreesInBands(1) && agreesInBands(5) && agreesInBands(SIDE)
         && inverse() == SIDE * SIDE - dots(EVEN)
         && movesAlong(y, EVEN) && movesAlong(y, TURNS)
-        && halvesAgree() && turnsHoldsEven(y) && packsAgree();
+        && halvesAgree() && lastTells(y) && packsAgree();
   }
 
   public long digest() {
@@ -642,13 +642,17 @@ public final class Plateroomprinter {
     return agrees;
   }
 
-  /** Whether each dot of the row that is in by EVEN is in by TURNS too. */
-  private boolean turnsHoldsEven(int y) {
-    fillPath(0, 0, EVEN, rowsOne);
-    fillPath(0, 0, TURNS, rowsTwo);
+  /** Whether each dot of the row has the COLOUR that the last FIGURE that has it tells, 0 without one. */
+  private boolean lastTells(int y) {
     boolean agrees = true;
     for (int x = 0; x < SIDE; x++) {
-      if (isSet(rowsOne, x, y) && !isSet(rowsTwo, x, y)) {
+      int figure = last(x, y);
+      int colour = 0;
+      for (int plate = 0; plate < PLATES && figure >= 0 && figure < MOST_FIGURES; plate++) {
+        int on = Sheet.screenOf(world.list.amounts[figure * PLATES + plate], plate, y);
+        colour |= ((on >>> x) & 1) << plate;
+      }
+      if (colour != world.sheet.colourOf(x, y)) {
         agrees = false;
       }
     }
@@ -1289,7 +1293,7 @@ public final class Plateroomprinter {
     }
 
     /** The dots of a row that an AMOUNT puts on; the SCREEN comes again with every fourth dot. */
-    private static int screenOf(int amount, int plate, int y) {
+    static int screenOf(int amount, int plate, int y) {
       int four = 0;
       for (int x = 0; x < 4; x++) {
         if (amount > SCREEN[((y + plate) & 3) * 4 + ((x + 2 * plate) & 3)]) {

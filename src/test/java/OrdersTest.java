@@ -143,6 +143,11 @@ public final class OrdersTest {
     x = t.after("1 1 4 4 box fill");
     t.due("dots", x.cost(1), 6 + 16);
     t.due("of these tokens", x.cost(2), 6);
+    // What an order had painted ahead of its fault is no cost of the next run.
+    x = t.after("59 [ fill ] repeat");
+    t.fault(x, FULL, "2 2 to 88 !show");
+    t.due("run", Checks.run(x, "1"), 0);
+    t.due("a token", x.cost(1), 1);
     t.due("dots that do not change", t.after("0 grey 1 1 4 4 box fill 1 1 4 4 box fill").cost(1), 14 + 32);
   }
 
