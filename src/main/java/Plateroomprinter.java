@@ -663,35 +663,45 @@ public final class Plateroomprinter {
   private boolean packsAgree() {
     boolean agrees = true;
     for (int plate = 0; plate < PLATES; plate++) {
-      int many = Math.min(pack(plate), packs.length);
-      int dot = 0;
-      for (int k = 0; k < many; k++) {
-        for (int n = 0; n < packs[k]; n++) {
-          if (isSet(world.sheet.rows, dot % SIDE, plate * SIDE + dot / SIDE) != (k % 2 == 1)) {
-            agrees = false;
-          }
-          dot++;
+      boolean complete = unpack(pack(plate), rowsOne);
+      for (int y = 0; y < SIDE; y++) {
+        if (!complete || rowsOne[y] != world.sheet.rows[plate * SIDE + y]) {
+          agrees = false;
         }
-      }
-      if (dot != SIDE * SIDE) {
-        agrees = false;
       }
     }
     return agrees;
+  }
+
+  /** Puts the dots of so many numbers of packs on; answers whether they tell 1024 dots. */
+  private boolean unpack(int many, int[] rows) {
+    clearRows(rows);
+    int dot = 0;
+    for (int k = 0; k < many && k < packs.length; k++) {
+      int end = dot + packs[k];
+      for (int on = dot; k % 2 == 1 && on < end && on < SIDE * SIDE; on++) {
+        rows[on / SIDE] |= 1 << (on % SIDE);
+      }
+      dot = end;
+    }
+    return dot == SIDE * SIDE;
   }
 
   /** Writes the RUNS of a plate into packs and answers how many they are. */
   private int pack(int plate) {
     int many = 0;
     int length = 0;
-    boolean on = false;
-    for (int k = 0; k < SIDE * SIDE; k++) {
-      if (isSet(world.sheet.rows, k % SIDE, plate * SIDE + k / SIDE) != on) {
-        many = tell(length, many);
-        on = !on;
-        length = 0;
+    int on = 0;
+    for (int y = 0; y < SIDE; y++) {
+      int row = world.sheet.rows[plate * SIDE + y];
+      for (int x = 0; x < SIDE; x++) {
+        if (((row >>> x) & 1) != on) {
+          many = tell(length, many);
+          on = 1 - on;
+          length = 0;
+        }
+        length++;
       }
-      length++;
     }
     return tell(length, many);
   }
