@@ -545,6 +545,13 @@ public final class CallsTest {
     t.outOfBounds("y", () -> x.lastDot(0, -1));
     t.illegalArgument("what", () -> x.page(6));
     t.illegalArgument("what", () -> x.page(-1));
+    for (int plate = 0; plate < 4; plate++) {
+      String amounts = "0 ".repeat(plate) + "16 " + "0 ".repeat(3 - plate);
+      Plateroomprinter z = t.after(amounts + "colour 2 2 3 3 box fill page");
+      t.due("dots with a colour", z.page(5), 9);
+      t.due("dots on the plate", z.page(plate + 1), 9);
+      t.due("colour", z.lastDot(4, 4), 1 << plate);
+    }
     Plateroomprinter y = new Plateroomprinter();
     t.outOfBounds("also without one", () -> y.lastDot(32, 0));
   }

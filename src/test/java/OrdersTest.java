@@ -15,6 +15,7 @@ public final class OrdersTest {
 
   public static void main(String[] args) {
     runsWithoutFault();
+    rollback();
     tokensAndBraces();
     names();
     rowsInRows();
@@ -67,6 +68,30 @@ public final class OrdersTest {
     x.drop();
     t.due("without the last token", x.run(), 0);
     t.due("pile", x.items(), 0);
+  }
+
+  /** A fault behind changes of all that there is. */
+  private static void rollback() {
+    String shapes = "1 1 2 2 box 0 keep 3 3 to 4 4 line 4 keep";
+    String figures = "1 2 3 4 colour fill 5 6 7 8 colour 9 9 3 3 box fill 2 2 to 8 1 cap show 16 grey 4 4 9 9 box fill";
+    String kept = "2 pen 5 5 to 6 6 line 3 1 3 1 scale 2 3 move save 4 pen 1 turn 0 0 9 9 box clip 7 8 to save";
+    Plateroomprinter x = t.after("1 2 /3 [ 4 5 ]", "/0 5 def /9 [ 6 7 8 ] def", shapes, "page " + figures, kept);
+    Plateroomprinter y = t.after("1 2 /3 [ 4 5 ]", "/0 5 def /9 [ 6 7 8 ] def", shapes, "page " + figures, kept);
+    t.fault(x, UNDER, "pop pop pop pop /0 7 def /9 8 def /1 1 def whole 0 0 32 32 box fill 9 9 to 0 keep 1 keep 4 keep "
+        + "restore new restore new 1 pen save save save page 0 grey 5 [ 0 0 32 32 box evenclip fill ] repeat "
+        + "3 3 move 1 2 slant 1 cap 1 join 3 size restore !pop");
+    String[] rest = {"do @9 @0", "0 0 0 use 0 0 4 use", "restore", "0 0 4 use 1 cap stroke", "restore restore"};
+    for (String text : rest) {
+      t.due("run of " + text, Checks.run(x, text), Checks.run(y, text));
+      x.wipe();
+      y.wipe();
+      x.run();
+      y.run();
+      t.due("all as if it had not been, behind " + text, x.digest(), y.digest());
+      for (int k = 0; k < 1024; k++) {
+        t.due("last figure", x.last(k % 32, k / 32), y.last(k % 32, k / 32));
+      }
+    }
   }
 
   private static void tokensAndBraces() {
@@ -405,6 +430,14 @@ public final class OrdersTest {
     t.fault(KIND, "/1 2 !by");
     t.fault(RANGE, "2001 0 !to");
     t.fault(RANGE, "0 -2001 !to");
+    String fine = "1 16 1 16 scale 9999 3 mul 2003 add 9999 -3 mul 2003 sub ";
+    Plateroomprinter x = t.after(fine + "to");
+    t.due("farthest x", x.state(9), 32000);
+    t.due("farthest y", x.state(10), -32000);
+    t.fault(RANGE, fine + "1 sub !to");
+    t.fault(RANGE, fine + "exch 1 add exch !to");
+    t.fault(RANGE, fine + "1 sub 0 !to");
+    t.fault(RANGE, fine + "pop 1 add 0 exch !to");
     t.fault(RANGE, "1 1 to 0 2001 !line");
     t.fault(RANGE, "2000 0 to 1 0 !by");
     t.fault(RANGE, "0 -2000 to 0 -1 !lineby");
