@@ -33,6 +33,8 @@ public final class CallsTest {
     page();
     sound();
     digest();
+    corners();
+    refusedCallsAreNotCounted();
     t.end();
   }
 
@@ -90,10 +92,10 @@ public final class CallsTest {
       t.due("token", x.token(good[k][0], good[k][1]), k + 1);
     }
     for (int[] b : bad) {
-      t.illegalArgument("token " + b[0] + " " + b[1], () -> x.token(b[0], b[1]));
-      t.illegalArgument("first of three", () -> x.three(b[0], b[1], 0, 0, 0, 0));
-      t.illegalArgument("second of three", () -> x.three(0, 0, b[0], b[1], 0, 0));
-      t.illegalArgument("last of three", () -> x.three(0, 0, 0, 0, b[0], b[1]));
+      t.illegalArgument(x, "token " + b[0] + " " + b[1], () -> x.token(b[0], b[1]));
+      t.illegalArgument(x, "first of three", () -> x.three(b[0], b[1], 0, 0, 0, 0));
+      t.illegalArgument(x, "second of three", () -> x.three(0, 0, b[0], b[1], 0, 0));
+      t.illegalArgument(x, "last of three", () -> x.three(0, 0, 0, 0, b[0], b[1]));
     }
     t.due("nothing came", x.tokens(), good.length);
     for (int k = 0; k < good.length; k++) {
@@ -114,13 +116,13 @@ public final class CallsTest {
     }
     t.due("396 and one", x.token(0, 1), 397);
     t.due("three more", x.three(0, 1, 0, 2, 0, 3), 400);
-    t.illegalState("token 401", () -> x.token(0, 1));
-    t.illegalArgument("wrong and full", () -> x.token(0, 10000));
-    t.illegalState("three", () -> x.three(0, 1, 0, 1, 0, 1));
-    t.illegalArgument("wrong and full", () -> x.three(0, 1, 0, 1, 1, 53));
+    t.illegalState(x, "token 401", () -> x.token(0, 1));
+    t.illegalArgument(x, "wrong and full", () -> x.token(0, 10000));
+    t.illegalState(x, "three", () -> x.three(0, 1, 0, 1, 0, 1));
+    t.illegalArgument(x, "wrong and full", () -> x.three(0, 1, 0, 1, 1, 53));
     for (int k = 0; k < 2; k++) {
       x.drop();
-      t.illegalState("room for " + (k + 1), () -> x.three(0, 1, 0, 1, 0, 1));
+      t.illegalState(x, "room for " + (k + 1), () -> x.three(0, 1, 0, 1, 0, 1));
     }
     t.due("tokens", x.tokens(), 398);
     t.due("one", x.token(0, 9), 399);
@@ -128,17 +130,17 @@ public final class CallsTest {
 
   private static void drop() {
     Plateroomprinter x = new Plateroomprinter();
-    t.illegalState("drop", x::drop);
+    t.illegalState(x, "drop", x::drop);
     x.three(0, 5, 1, 6, 3, 7);
     t.due("drop", x.drop(), 3);
     t.due("drop", x.drop(), 1);
     t.due("tokens", x.tokens(), 1);
     t.due("the first stays", x.tokenAt(0, 1), 5);
     t.due("drop", x.drop(), 0);
-    t.illegalState("drop", x::drop);
+    t.illegalState(x, "drop", x::drop);
     x.run();
     Checks.run(x, "1 2");
-    t.illegalState("drop behind a run", x::drop);
+    t.illegalState(x, "drop behind a run", x::drop);
   }
 
   private static void wipe() {
@@ -182,22 +184,22 @@ public final class CallsTest {
 
   private static void tokenAt() {
     Plateroomprinter x = new Plateroomprinter();
-    t.outOfBounds("no place", () -> x.tokenAt(0, 0));
+    t.outOfBounds(x, "no place", () -> x.tokenAt(0, 0));
     x.token(1, 7);
     t.due("kind", x.tokenAt(0, 0), 1);
     t.due("number", x.tokenAt(0, 1), 7);
-    t.outOfBounds("place", () -> x.tokenAt(1, 0));
-    t.outOfBounds("place", () -> x.tokenAt(-1, 0));
-    t.outOfBounds("place ahead of what", () -> x.tokenAt(1, 2));
-    t.illegalArgument("what", () -> x.tokenAt(0, 2));
-    t.illegalArgument("what", () -> x.tokenAt(0, -1));
+    t.outOfBounds(x, "place", () -> x.tokenAt(1, 0));
+    t.outOfBounds(x, "place", () -> x.tokenAt(-1, 0));
+    t.outOfBounds(x, "place ahead of what", () -> x.tokenAt(1, 2));
+    t.illegalArgument(x, "what", () -> x.tokenAt(0, 2));
+    t.illegalArgument(x, "what", () -> x.tokenAt(0, -1));
     t.due("tokens", x.tokens(), 1);
     x.wipe();
     Checks.run(x, "1 2");
     x.token(2, 5);
     t.due("behind a run", x.tokenAt(0, 1), 5);
-    t.outOfBounds("behind a run", () -> x.tokenAt(1, 0));
-    t.outOfBounds("behind a run", () -> x.tokenAt(-1, 0));
+    t.outOfBounds(x, "behind a run", () -> x.tokenAt(1, 0));
+    t.outOfBounds(x, "behind a run", () -> x.tokenAt(-1, 0));
   }
 
   private static void fault() {
@@ -206,8 +208,8 @@ public final class CallsTest {
     t.due("code", x.fault(0), 5);
     t.due("place", x.fault(1), 2);
     t.due("own place", x.fault(2), 3);
-    t.illegalArgument("what", () -> x.fault(3));
-    t.illegalArgument("what", () -> x.fault(-1));
+    t.illegalArgument(x, "what", () -> x.fault(3));
+    t.illegalArgument(x, "what", () -> x.fault(-1));
     x.wipe();
     t.due("it stays", x.fault(0), 5);
   }
@@ -219,11 +221,11 @@ public final class CallsTest {
       t.due("sort of " + k, x.item(k, 0), due[k][0]);
       t.due("value of " + k, x.item(k, 1), due[k][1]);
     }
-    t.outOfBounds("place", () -> x.item(3, 0));
-    t.outOfBounds("place", () -> x.item(-1, 0));
-    t.outOfBounds("place ahead of what", () -> x.item(3, 2));
-    t.illegalArgument("what", () -> x.item(2, 2));
-    t.illegalArgument("what", () -> x.item(0, -1));
+    t.outOfBounds(x, "place", () -> x.item(3, 0));
+    t.outOfBounds(x, "place", () -> x.item(-1, 0));
+    t.outOfBounds(x, "place ahead of what", () -> x.item(3, 2));
+    t.illegalArgument(x, "what", () -> x.item(2, 2));
+    t.illegalArgument(x, "what", () -> x.item(0, -1));
     t.due("items", x.items(), 3);
   }
 
@@ -234,11 +236,11 @@ public final class CallsTest {
       t.due("sort of " + k, x.name(k, 0), due[k][0]);
       t.due("value of " + k, x.name(k, 1), due[k][1]);
     }
-    t.outOfBounds("name", () -> x.name(10, 0));
-    t.outOfBounds("name", () -> x.name(-1, 0));
-    t.outOfBounds("name ahead of what", () -> x.name(10, 2));
-    t.illegalArgument("what", () -> x.name(1, 2));
-    t.illegalArgument("what", () -> x.name(0, -1));
+    t.outOfBounds(x, "name", () -> x.name(10, 0));
+    t.outOfBounds(x, "name", () -> x.name(-1, 0));
+    t.outOfBounds(x, "name ahead of what", () -> x.name(10, 2));
+    t.illegalArgument(x, "what", () -> x.name(1, 2));
+    t.illegalArgument(x, "what", () -> x.name(0, -1));
   }
 
   private static void cost() {
@@ -253,8 +255,8 @@ public final class CallsTest {
     x.run();
     t.due("an empty one is", x.cost(1), 0);
     t.due("all", x.cost(0), 13);
-    t.illegalArgument("what", () -> x.cost(3));
-    t.illegalArgument("what", () -> x.cost(-1));
+    t.illegalArgument(x, "what", () -> x.cost(3));
+    t.illegalArgument(x, "what", () -> x.cost(-1));
   }
 
   private static void done() {
@@ -267,8 +269,8 @@ public final class CallsTest {
     Checks.run(x, "1 2 add pop pop pop pop");
     t.due("a fault is not told", x.done(0), 4);
     t.due("the last order", t.after("page page").done(52), 2);
-    t.outOfBounds("order", () -> x.done(53));
-    t.outOfBounds("order", () -> x.done(-1));
+    t.outOfBounds(x, "order", () -> x.done(53));
+    t.outOfBounds(x, "order", () -> x.done(-1));
   }
 
   private static void state() {
@@ -278,8 +280,8 @@ public final class CallsTest {
     for (int k = 0; k < due.length; k++) {
       t.due("state " + k, x.state(k), due[k]);
     }
-    t.illegalArgument("what", () -> x.state(15));
-    t.illegalArgument("what", () -> x.state(-1));
+    t.illegalArgument(x, "what", () -> x.state(15));
+    t.illegalArgument(x, "what", () -> x.state(-1));
     Checks.run(x, "-7 -8 to");
     t.due("x", x.state(9), -112);
     t.due("y", x.state(10), -128);
@@ -295,33 +297,33 @@ public final class CallsTest {
     for (int k = 0; k < 12; k++) {
       t.due("entry " + k / 2, x.matrix(k / 2, k % 2), due[k]);
     }
-    t.outOfBounds("entry", () -> x.matrix(6, 0));
-    t.outOfBounds("entry", () -> x.matrix(-1, 0));
-    t.outOfBounds("entry ahead of part", () -> x.matrix(6, 2));
-    t.illegalArgument("part", () -> x.matrix(5, 2));
-    t.illegalArgument("part", () -> x.matrix(0, -1));
+    t.outOfBounds(x, "entry", () -> x.matrix(6, 0));
+    t.outOfBounds(x, "entry", () -> x.matrix(-1, 0));
+    t.outOfBounds(x, "entry ahead of part", () -> x.matrix(6, 2));
+    t.illegalArgument(x, "part", () -> x.matrix(5, 2));
+    t.illegalArgument(x, "part", () -> x.matrix(0, -1));
   }
 
   private static void ringAndPoint() {
     Plateroomprinter x = t.after("1 1 2 3 box 5 6 to 7 8 line");
     t.ring(x, 0, 1, 16, 16, 48, 16, 48, 64, 16, 64);
     t.ring(x, 1, 0, 80, 96, 112, 128);
-    t.outOfBounds("ring", () -> x.ring(2, 0));
-    t.outOfBounds("ring", () -> x.ring(-1, 0));
-    t.outOfBounds("ring ahead of what", () -> x.ring(2, 2));
-    t.illegalArgument("what", () -> x.ring(1, 2));
-    t.illegalArgument("what", () -> x.ring(0, -1));
-    t.outOfBounds("ring", () -> x.point(2, 0, 0));
-    t.outOfBounds("ring", () -> x.point(-1, 0, 0));
-    t.outOfBounds("point", () -> x.point(0, 4, 0));
-    t.outOfBounds("point", () -> x.point(0, -1, 0));
-    t.outOfBounds("point", () -> x.point(1, 2, 0));
-    t.outOfBounds("point ahead of what", () -> x.point(1, 2, 2));
-    t.illegalArgument("what", () -> x.point(1, 1, 2));
-    t.illegalArgument("what", () -> x.point(0, 0, -1));
+    t.outOfBounds(x, "ring", () -> x.ring(2, 0));
+    t.outOfBounds(x, "ring", () -> x.ring(-1, 0));
+    t.outOfBounds(x, "ring ahead of what", () -> x.ring(2, 2));
+    t.illegalArgument(x, "what", () -> x.ring(1, 2));
+    t.illegalArgument(x, "what", () -> x.ring(0, -1));
+    t.outOfBounds(x, "ring", () -> x.point(2, 0, 0));
+    t.outOfBounds(x, "ring", () -> x.point(-1, 0, 0));
+    t.outOfBounds(x, "point", () -> x.point(0, 4, 0));
+    t.outOfBounds(x, "point", () -> x.point(0, -1, 0));
+    t.outOfBounds(x, "point", () -> x.point(1, 2, 0));
+    t.outOfBounds(x, "point ahead of what", () -> x.point(1, 2, 2));
+    t.illegalArgument(x, "what", () -> x.point(1, 1, 2));
+    t.illegalArgument(x, "what", () -> x.point(0, 0, -1));
     Plateroomprinter y = new Plateroomprinter();
-    t.outOfBounds("no ring", () -> y.ring(0, 0));
-    t.outOfBounds("no ring", () -> y.point(0, 0, 0));
+    t.outOfBounds(y, "no ring", () -> y.ring(0, 0));
+    t.outOfBounds(y, "no ring", () -> y.point(0, 0, 0));
   }
 
   private static void form() {
@@ -332,11 +334,11 @@ public final class CallsTest {
         t.due("form " + k, x.form(k, n), due[k][n]);
       }
     }
-    t.outOfBounds("form", () -> x.form(5, 0));
-    t.outOfBounds("form", () -> x.form(-1, 0));
-    t.outOfBounds("form ahead of what", () -> x.form(5, 3));
-    t.illegalArgument("what", () -> x.form(1, 3));
-    t.illegalArgument("what", () -> x.form(4, -1));
+    t.outOfBounds(x, "form", () -> x.form(5, 0));
+    t.outOfBounds(x, "form", () -> x.form(-1, 0));
+    t.outOfBounds(x, "form ahead of what", () -> x.form(5, 3));
+    t.illegalArgument(x, "what", () -> x.form(1, 3));
+    t.illegalArgument(x, "what", () -> x.form(4, -1));
   }
 
   private static final String TWICE = "2 2 6 6 box 4 4 2 2 box ";
@@ -350,13 +352,13 @@ public final class CallsTest {
     t.no("in twice, by even", x.has(4, 5, 0));
     t.yes("in twice, by turns", x.has(4, 5, 1));
     t.no("far off", x.has(31, 31, 1));
-    t.outOfBounds("x", () -> x.has(32, 0, 0));
-    t.outOfBounds("x", () -> x.has(-1, 0, 0));
-    t.outOfBounds("y", () -> x.has(0, 32, 0));
-    t.outOfBounds("y", () -> x.has(0, -1, 0));
-    t.outOfBounds("y ahead of rule", () -> x.has(0, 32, 2));
-    t.illegalArgument("rule", () -> x.has(0, 0, 2));
-    t.illegalArgument("rule", () -> x.has(0, 0, -1));
+    t.outOfBounds(x, "x", () -> x.has(32, 0, 0));
+    t.outOfBounds(x, "x", () -> x.has(-1, 0, 0));
+    t.outOfBounds(x, "y", () -> x.has(0, 32, 0));
+    t.outOfBounds(x, "y", () -> x.has(0, -1, 0));
+    t.outOfBounds(x, "y ahead of rule", () -> x.has(0, 32, 2));
+    t.illegalArgument(x, "rule", () -> x.has(0, 0, 2));
+    t.illegalArgument(x, "rule", () -> x.has(0, 0, -1));
     t.no("without a path", new Plateroomprinter().has(0, 0, 1));
   }
 
@@ -364,8 +366,8 @@ public final class CallsTest {
     Plateroomprinter x = t.after("9 9 2 2 box clip " + TWICE);
     t.due("even", x.dots(0), 32);
     t.due("turns", x.dots(1), 36);
-    t.illegalArgument("rule", () -> x.dots(2));
-    t.illegalArgument("rule", () -> x.dots(-1));
+    t.illegalArgument(x, "rule", () -> x.dots(2));
+    t.illegalArgument(x, "rule", () -> x.dots(-1));
     t.due("moved", x.moved(3, -2, 0), 32);
     t.due("moved", x.moved(24, 0, 1), 36);
     t.due("half off the page", x.moved(27, 0, 1), 18);
@@ -374,12 +376,12 @@ public final class CallsTest {
     t.due("off the page", x.moved(-40, 40, 1), 0);
     t.due("off the page", x.moved(40, -40, 1), 0);
     t.due("the path stays", x.point(0, 0, 0), 32);
-    t.illegalArgument("dx", () -> x.moved(41, 0, 0));
-    t.illegalArgument("dx", () -> x.moved(-41, 0, 0));
-    t.illegalArgument("dy", () -> x.moved(0, 41, 0));
-    t.illegalArgument("dy", () -> x.moved(0, -41, 0));
-    t.illegalArgument("rule", () -> x.moved(0, 0, 2));
-    t.illegalArgument("rule", () -> x.moved(0, 0, -1));
+    t.illegalArgument(x, "dx", () -> x.moved(41, 0, 0));
+    t.illegalArgument(x, "dx", () -> x.moved(-41, 0, 0));
+    t.illegalArgument(x, "dy", () -> x.moved(0, 41, 0));
+    t.illegalArgument(x, "dy", () -> x.moved(0, -41, 0));
+    t.illegalArgument(x, "rule", () -> x.moved(0, 0, 2));
+    t.illegalArgument(x, "rule", () -> x.moved(0, 0, -1));
     Plateroomprinter y = t.after("-10 -10 5 5 box");
     t.due("brought onto the page", y.moved(20, 20, 1), 25);
   }
@@ -412,18 +414,18 @@ public final class CallsTest {
     t.due("second", y.halves(0, 0, 4, 2), 16);
     t.due("both", y.halves(0, 0, 4, 3), 16);
     t.due("just one", y.halves(0, 0, 4, 4), 20);
-    t.outOfBounds("ring", () -> x.halves(2, 0, 2, 0));
-    t.outOfBounds("ring", () -> x.halves(-1, 0, 2, 0));
-    t.outOfBounds("from", () -> x.halves(0, -1, 2, 0));
-    t.outOfBounds("from", () -> x.halves(0, 4, 2, 0));
-    t.outOfBounds("to", () -> x.halves(0, 0, 4, 0));
-    t.outOfBounds("to", () -> x.halves(0, 0, -1, 0));
-    t.outOfBounds("to", () -> x.halves(1, 0, 1, 0));
-    t.outOfBounds("ahead of what", () -> x.halves(0, 0, 4, 5));
-    t.illegalArgument("to not above from", () -> x.halves(0, 2, 2, 0));
-    t.illegalArgument("to not above from", () -> x.halves(0, 2, 1, 0));
-    t.illegalArgument("what", () -> x.halves(0, 0, 2, 5));
-    t.illegalArgument("what", () -> x.halves(0, 0, 2, -1));
+    t.outOfBounds(x, "ring", () -> x.halves(2, 0, 2, 0));
+    t.outOfBounds(x, "ring", () -> x.halves(-1, 0, 2, 0));
+    t.outOfBounds(x, "from", () -> x.halves(0, -1, 2, 0));
+    t.outOfBounds(x, "from", () -> x.halves(0, 4, 2, 0));
+    t.outOfBounds(x, "to", () -> x.halves(0, 0, 4, 0));
+    t.outOfBounds(x, "to", () -> x.halves(0, 0, -1, 0));
+    t.outOfBounds(x, "to", () -> x.halves(1, 0, 1, 0));
+    t.outOfBounds(x, "ahead of what", () -> x.halves(0, 0, 4, 5));
+    t.illegalArgument(x, "to not above from", () -> x.halves(0, 2, 2, 0));
+    t.illegalArgument(x, "to not above from", () -> x.halves(0, 2, 1, 0));
+    t.illegalArgument(x, "what", () -> x.halves(0, 0, 2, 5));
+    t.illegalArgument(x, "what", () -> x.halves(0, 0, 2, -1));
   }
 
   private static void figure() {
@@ -435,11 +437,11 @@ public final class CallsTest {
       }
     }
     t.due("figures", x.figures(), 2);
-    t.outOfBounds("figure", () -> x.figure(2, 0));
-    t.outOfBounds("figure", () -> x.figure(-1, 0));
-    t.outOfBounds("figure ahead of what", () -> x.figure(2, 7));
-    t.illegalArgument("what", () -> x.figure(1, 7));
-    t.illegalArgument("what", () -> x.figure(0, -1));
+    t.outOfBounds(x, "figure", () -> x.figure(2, 0));
+    t.outOfBounds(x, "figure", () -> x.figure(-1, 0));
+    t.outOfBounds(x, "figure ahead of what", () -> x.figure(2, 7));
+    t.illegalArgument(x, "what", () -> x.figure(1, 7));
+    t.illegalArgument(x, "what", () -> x.figure(0, -1));
   }
 
   private static void last() {
@@ -449,10 +451,10 @@ public final class CallsTest {
     t.due("the fourth", x.last(3, 3), 3);
     t.due("none", x.last(6, 6), NONE);
     t.due("none", x.last(31, 31), NONE);
-    t.outOfBounds("x", () -> x.last(32, 0));
-    t.outOfBounds("x", () -> x.last(-1, 0));
-    t.outOfBounds("y", () -> x.last(0, 32));
-    t.outOfBounds("y", () -> x.last(0, -1));
+    t.outOfBounds(x, "x", () -> x.last(32, 0));
+    t.outOfBounds(x, "x", () -> x.last(-1, 0));
+    t.outOfBounds(x, "y", () -> x.last(0, 32));
+    t.outOfBounds(x, "y", () -> x.last(0, -1));
     Checks.run(x, "page");
     t.due("an empty list", x.last(3, 3), NONE);
   }
@@ -468,16 +470,16 @@ public final class CallsTest {
     t.due("row", x.row(3, 31), 0);
     t.due("count", x.count(0), 2);
     t.due("count", x.count(3), 3);
-    t.outOfBounds("x", () -> x.dot(32, 0));
-    t.outOfBounds("x", () -> x.dot(-1, 0));
-    t.outOfBounds("y", () -> x.dot(0, 32));
-    t.outOfBounds("y", () -> x.dot(0, -1));
-    t.outOfBounds("plate", () -> x.row(4, 0));
-    t.outOfBounds("plate", () -> x.row(-1, 0));
-    t.outOfBounds("y", () -> x.row(0, 32));
-    t.outOfBounds("y", () -> x.row(0, -1));
-    t.outOfBounds("plate", () -> x.count(4));
-    t.outOfBounds("plate", () -> x.count(-1));
+    t.outOfBounds(x, "x", () -> x.dot(32, 0));
+    t.outOfBounds(x, "x", () -> x.dot(-1, 0));
+    t.outOfBounds(x, "y", () -> x.dot(0, 32));
+    t.outOfBounds(x, "y", () -> x.dot(0, -1));
+    t.outOfBounds(x, "plate", () -> x.row(4, 0));
+    t.outOfBounds(x, "plate", () -> x.row(-1, 0));
+    t.outOfBounds(x, "y", () -> x.row(0, 32));
+    t.outOfBounds(x, "y", () -> x.row(0, -1));
+    t.outOfBounds(x, "plate", () -> x.count(4));
+    t.outOfBounds(x, "plate", () -> x.count(-1));
   }
 
   private static void bands() {
@@ -486,9 +488,9 @@ public final class CallsTest {
     for (int height = 1; height <= 32; height++) {
       t.yes("bands of " + height, x.bands(height));
     }
-    t.illegalArgument("height", () -> x.bands(0));
-    t.illegalArgument("height", () -> x.bands(33));
-    t.illegalArgument("height", () -> x.bands(-1));
+    t.illegalArgument(x, "height", () -> x.bands(0));
+    t.illegalArgument(x, "height", () -> x.bands(33));
+    t.illegalArgument(x, "height", () -> x.bands(-1));
     Checks.run(x, "page");
     t.yes("an empty page", x.bands(5));
   }
@@ -498,8 +500,8 @@ public final class CallsTest {
     for (int k = 0; k < due.length; k++) {
       t.due("number " + k, x.runAt(plate, k), due[k]);
     }
-    t.outOfBounds("place", () -> x.runAt(plate, due.length));
-    t.outOfBounds("place", () -> x.runAt(plate, -1));
+    t.outOfBounds(x, "place", () -> x.runAt(plate, due.length));
+    t.outOfBounds(x, "place", () -> x.runAt(plate, -1));
   }
 
   private static void runs() {
@@ -515,15 +517,15 @@ public final class CallsTest {
     t.due("off", x.runAt(3, 4), 6);
     t.due("on", x.runAt(3, 5), 1);
     Plateroomprinter y = new Plateroomprinter();
-    t.outOfBounds("plate", () -> y.runs(4));
-    t.outOfBounds("plate", () -> y.runs(-1));
-    t.outOfBounds("plate", () -> y.runAt(4, 0));
-    t.outOfBounds("plate", () -> y.runAt(-1, 0));
+    t.outOfBounds(y, "plate", () -> y.runs(4));
+    t.outOfBounds(y, "plate", () -> y.runs(-1));
+    t.outOfBounds(y, "plate", () -> y.runAt(4, 0));
+    t.outOfBounds(y, "plate", () -> y.runAt(-1, 0));
     // Every other dot is a number of its own.
     Plateroomprinter z = t.after("16 [ 0 0 1 32 box 2 0 move ] repeat fill");
     t.due("most runs", z.runs(3), 1025);
     t.due("the last one", z.runAt(3, 1024), 1);
-    t.outOfBounds("behind it", () -> z.runAt(3, 1025));
+    t.outOfBounds(z, "behind it", () -> z.runAt(3, 1025));
   }
 
   private static void page() {
@@ -539,12 +541,12 @@ public final class CallsTest {
     t.due("dot", x.lastDot(2, 2), 1);
     t.due("dot", x.lastDot(0, 0), 0);
     t.due("dot", x.lastDot(31, 31), 0);
-    t.outOfBounds("x", () -> x.lastDot(32, 0));
-    t.outOfBounds("x", () -> x.lastDot(-1, 0));
-    t.outOfBounds("y", () -> x.lastDot(0, 32));
-    t.outOfBounds("y", () -> x.lastDot(0, -1));
-    t.illegalArgument("what", () -> x.page(6));
-    t.illegalArgument("what", () -> x.page(-1));
+    t.outOfBounds(x, "x", () -> x.lastDot(32, 0));
+    t.outOfBounds(x, "x", () -> x.lastDot(-1, 0));
+    t.outOfBounds(x, "y", () -> x.lastDot(0, 32));
+    t.outOfBounds(x, "y", () -> x.lastDot(0, -1));
+    t.illegalArgument(x, "what", () -> x.page(6));
+    t.illegalArgument(x, "what", () -> x.page(-1));
     for (int plate = 0; plate < 4; plate++) {
       String amounts = "0 ".repeat(plate) + "16 " + "0 ".repeat(3 - plate);
       Plateroomprinter z = t.after(amounts + "colour 2 2 3 3 box fill page");
@@ -553,7 +555,7 @@ public final class CallsTest {
       t.due("colour", z.lastDot(4, 4), 1 << plate);
     }
     Plateroomprinter y = new Plateroomprinter();
-    t.outOfBounds("also without one", () -> y.lastDot(32, 0));
+    t.outOfBounds(y, "also without one", () -> y.lastDot(32, 0));
   }
 
   private static void sound() {
@@ -631,15 +633,64 @@ public final class CallsTest {
     t.due("of a new one", x.digest(), digestOf(x));
     String[] texts = {ALL, TWICE + "1 1 to 20 3 line 3 20 line", "1 0 div", "1 2 4 5", "0 0 to 1 keep 15 1 set page", "]"};
     for (String text : texts) {
-      Checks.write(x, text);
-      t.due("ahead of the run of " + text, x.digest(), digestOf(x));
-      x.run();
-      t.due("behind it", x.digest(), digestOf(x));
-      x.wipe();
+      Plateroomprinter y = t.after("5 /3 6 def 7 7 to");
+      Checks.write(y, text);
+      y.run();
+      t.due("behind the run of " + text, y.digest(), digestOf(y));
+    }
+    for (int k = 1; k < texts.length; k++) {
+      Plateroomprinter y = new Plateroomprinter();
+      Checks.write(y, texts[k]);
+      t.due("ahead of the run of " + texts[k], y.digest(), digestOf(y));
     }
     x.knock();
     long d = x.digest();
     x.knock();
     t.due("the refused are not told", x.digest(), d);
+  }
+
+  /** The dots in the corners of the page are the last ones that each call takes. */
+  private static void corners() {
+    Plateroomprinter x = t.after("16 16 16 16 colour 0 0 32 32 box fill page 0 0 32 32 box fill 0 0 32 32 box");
+    for (int corner = 0; corner < 4; corner++) {
+      int cx = corner % 2 * 31;
+      int cy = corner / 2 * 31;
+      t.yes("has, even", x.has(cx, cy, 0));
+      t.yes("has, turns", x.has(cx, cy, 1));
+      t.due("last", x.last(cx, cy), 0);
+      t.due("dot", x.dot(cx, cy), 15);
+      t.due("last dot", x.lastDot(cx, cy), 15);
+      t.due("row", x.row(corner, cy), -1);
+      t.due("count", x.count(corner), 1024);
+    }
+    int[][] beyond = {{-1, 0}, {0, -1}, {32, 31}, {31, 32}, {Integer.MIN_VALUE, 0}, {0, Integer.MAX_VALUE}};
+    for (int[] b : beyond) {
+      t.outOfBounds(x, "has", () -> x.has(b[0], b[1], 0));
+      t.outOfBounds(x, "has, ahead of rule", () -> x.has(b[0], b[1], 2));
+      t.outOfBounds(x, "last", () -> x.last(b[0], b[1]));
+      t.outOfBounds(x, "dot", () -> x.dot(b[0], b[1]));
+      t.outOfBounds(x, "last dot", () -> x.lastDot(b[0], b[1]));
+    }
+    for (int d = 39; d <= 40; d++) {
+      for (int rule = 0; rule < 2; rule++) {
+        t.due("moved off", x.moved(d, 0, rule) + x.moved(-d, 0, rule) + x.moved(0, d, rule) + x.moved(0, -d, rule), 0);
+      }
+    }
+    t.due("a column left", x.moved(31, 0, 1) + x.moved(-31, 0, 0), 64);
+    t.due("a row left", x.moved(0, 31, 0) + x.moved(0, -31, 1), 64);
+    t.due("none left", x.moved(32, 0, 1) + x.moved(0, -32, 0), 0);
+  }
+
+  /** Who is refused an argument is no stranger that wants to print. */
+  private static void refusedCallsAreNotCounted() {
+    Plateroomprinter x = new Plateroomprinter();
+    t.due("knock", x.knock(), 1);
+    t.illegalArgument(x, "token", () -> x.token(6, 0));
+    t.illegalState(x, "drop", x::drop);
+    t.outOfBounds(x, "item", () -> x.item(0, 0));
+    t.due("a run with a fault", Checks.run(x, "pop"), 1);
+    t.due("fresh", x.fresh(), 0);
+    t.due("wipe", x.wipe(), 1);
+    t.due("knock", x.knock(), 2);
   }
 }

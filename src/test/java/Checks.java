@@ -35,20 +35,22 @@ final class Checks {
     due(what, got ? 1 : 0, 0);
   }
 
-  void illegalArgument(String what, Call call) {
-    refused(what, IllegalArgumentException.class, call);
+  void illegalArgument(Plateroomprinter x, String what, Call call) {
+    refused(x, what, IllegalArgumentException.class, call);
   }
 
-  void illegalState(String what, Call call) {
-    refused(what, IllegalStateException.class, call);
+  void illegalState(Plateroomprinter x, String what, Call call) {
+    refused(x, what, IllegalStateException.class, call);
   }
 
-  void outOfBounds(String what, Call call) {
-    refused(what, IndexOutOfBoundsException.class, call);
+  void outOfBounds(Plateroomprinter x, String what, Call call) {
+    refused(x, what, IndexOutOfBoundsException.class, call);
   }
 
-  private void refused(String what, Class<?> due, Call call) {
+  /** The call throws just that, and changes nothing. */
+  private void refused(Plateroomprinter x, String what, Class<?> due, Call call) {
     asked++;
+    long before = x.digest();
     Class<?> got = null;
     try {
       call.go();
@@ -59,6 +61,7 @@ final class Checks {
       wrong++;
       System.out.println(what + ": threw " + got + ", due is " + due);
     }
+    due("all behind the refused " + what, x.digest(), before);
   }
 
   /** Tells the count, and ends the machine with 1 if an answer was wrong. */
@@ -149,13 +152,13 @@ final class Checks {
     }
     write(x, marked.replace("!", "").replace("?", ""));
     int tokens = x.tokens();
-    String before = told(x);
+    long before = digestButFault(x);
     due("run of " + marked, x.run(), code);
     due("code of " + marked, x.fault(0), code);
     due("place of " + marked, x.fault(1), place);
     due("own place of " + marked, x.fault(2), ownPlace == NONE ? place : ownPlace);
     due("tokens of " + marked, x.tokens(), tokens);
-    yes("all is as ahead of " + marked, before.equals(told(x)));
+    due("all that is as ahead of " + marked, digestButFault(x), before);
     x.wipe();
   }
 
@@ -175,46 +178,24 @@ final class Checks {
     return 0;
   }
 
-  /** What the calls tell of all but the PROGRAM and FAULT. */
-  private static String told(Plateroomprinter x) {
-    StringBuilder s = new StringBuilder();
-    for (int k = 0; k < x.items(); k++) {
-      s.append(x.item(k, 0)).append(' ').append(x.item(k, 1)).append(' ');
+  /**
+   * The digest without what FAULT gives to it: each value is multiplied by 31
+   * for each one that is told behind it. An object is good for 512 calls only,
+   * so asking all of it twice, call by call, would be too much.
+   */
+  private static long digestButFault(Plateroomprinter x) {
+    int path = 2 * x.state(11) + 2 * x.state(12);
+    int behind = 1 + 2 * x.items() + 20 + 3 + 53 + 15 + 12 + path + 15 + 3 + 1 + 7 * x.figures() + 4 * 34 + 6 + 1;
+    long weight = 1;
+    for (int k = 0; k < behind; k++) {
+      weight *= 31;
     }
-    for (int k = 0; k < 10; k++) {
-      s.append(x.name(k, 0)).append(' ').append(x.name(k, 1)).append(' ');
+    long d = x.digest();
+    for (int k = 2; k >= 0; k--) {
+      d -= x.fault(k) * weight;
+      weight *= 31;
     }
-    s.append(x.cost(0)).append(' ').append(x.cost(1)).append(' ').append(x.cost(2)).append(' ');
-    for (int k = 0; k < 53; k++) {
-      s.append(x.done(k)).append(' ');
-    }
-    for (int k = 0; k < 15; k++) {
-      s.append(x.state(k)).append(' ');
-    }
-    for (int k = 0; k < 6; k++) {
-      s.append(x.matrix(k, 0)).append('/').append(x.matrix(k, 1)).append(' ');
-    }
-    for (int k = 0; k < x.state(11); k++) {
-      s.append(x.ring(k, 1)).append(": ");
-      for (int n = 0; n < x.ring(k, 0); n++) {
-        s.append(x.point(k, n, 0)).append(',').append(x.point(k, n, 1)).append(' ');
-      }
-    }
-    for (int k = 0; k < 5; k++) {
-      s.append(x.form(k, 0)).append(x.form(k, 1)).append(' ').append(x.form(k, 2)).append(' ');
-    }
-    for (int k = 0; k < x.figures(); k++) {
-      for (int n = 0; n < 7; n++) {
-        s.append(x.figure(k, n)).append(' ');
-      }
-    }
-    for (int k = 0; k < 128; k++) {
-      s.append(x.row(k / 32, k % 32)).append(' ');
-    }
-    for (int k = 0; k < 6; k++) {
-      s.append(x.page(k)).append(' ');
-    }
-    return s.append(x.lastDot(5, 5)).toString();
+    return d;
   }
 
   /** The points of a ring: x, y, x, y and so on. */
@@ -243,5 +224,10 @@ final class Checks {
 
   static String repeated(String text, int times) {
     return (text + " ").repeat(times);
+  }
+
+  /** Words that put n on the pile, also where no token can say it. */
+  static String number(int n) {
+    return n >= -9999 && n <= 9999 ? "" + n : n / 9999 + " 9999 mul " + n % 9999 + " add";
   }
 }

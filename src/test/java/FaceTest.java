@@ -129,7 +129,7 @@ public final class FaceTest {
     return many;
   }
 
-  /** Whatever is asked, and however long an object is used, only what the face tells is thrown. */
+  /** Whatever is asked, only what the face tells is thrown; an object may also be used far too long. */
   private static void nothingElseIsThrown() throws Exception {
     List<Method> calls = new ArrayList<>();
     for (Method m : Plateroomprinter.class.getDeclaredMethods()) {
@@ -138,8 +138,14 @@ public final class FaceTest {
       }
     }
     calls.sort((a, b) -> a.getName().compareTo(b.getName()));
-    Plateroomprinter x = new Plateroomprinter();
-    for (int k = 0; k < 120000; k++) {
+    for (int k = 0; k < 200; k++) {
+      callSomething(new Plateroomprinter(), calls, 512);
+    }
+    callSomething(new Plateroomprinter(), calls, 20000);
+  }
+
+  private static void callSomething(Plateroomprinter x, List<Method> calls, int many) throws Exception {
+    for (int k = 0; k < many; k++) {
       int choice = below(100);
       if (choice < 55) {
         writeSomething(x);

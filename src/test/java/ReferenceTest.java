@@ -7,6 +7,7 @@ import java.util.function.LongSupplier;
  * or throws must be what the Reference answers or throws.
  */
 public final class ReferenceTest {
+  private static final int MOST_CALLS = 512;
   private static long seed;
   private static int compared;
   private static int wrong;
@@ -386,8 +387,10 @@ public final class ReferenceTest {
     seed = number * 7919L + 17;
     Plateroomprinter x = new Plateroomprinter();
     Reference r = new Reference();
-    int budget = 1500;
-    for (int k = 0; k < 40 && budget > 0; k++) {
+    int first = compared;
+    // Behind the 512th call answers are free, and a round ends with some forty.
+    for (int k = 0; compared - first < MOST_CALLS - 40; k++) {
+      int budget = MOST_CALLS - 40 - (compared - first);
       Writer w = new Writer();
       w.pointed = r.w.now.point != null;
       for (int n = 0; n < 10; n++) {
@@ -398,7 +401,6 @@ public final class ReferenceTest {
         piece(w, 0);
       }
       List<int[]> toks = w.out.size() > budget ? w.out.subList(0, budget) : w.out;
-      budget -= toks.size();
       write(x, r, toks);
       same("run of object " + number, x::run, r::run);
       faults[r.fault(0)]++;
@@ -420,7 +422,7 @@ public final class ReferenceTest {
   }
 
   public static void main(String[] args) {
-    int objects = args.length > 0 ? Integer.parseInt(args[0]) : 150;
+    int objects = args.length > 0 ? Integer.parseInt(args[0]) : 450;
     int first = args.length > 1 ? Integer.parseInt(args[1]) : 0;
     for (int k = first; k < first + objects; k++) {
       object(k);
