@@ -171,6 +171,28 @@ public final class CallsTest {
     t.fault(x, 5, "0 0 2 !use");
     t.fault(x, 1, "!restore");
     t.fault(x, 5, "!@4");
+    freshIsAsNew();
+  }
+
+  /** Also with each NAME, FORM and ORDER, and with a page that is full of dots. */
+  private static void freshIsAsNew() {
+    StringBuilder names = new StringBuilder();
+    for (int k = 0; k < 10; k++) {
+      names.append('/').append(k).append(" 5 def ");
+    }
+    Plateroomprinter x = t.after(names + "1 2 add 1 1 to 2 2 line 0 keep 1 keep 2 keep 3 keep 4 keep save 9 9 to save 2 2 move",
+        "16 16 16 16 colour 0 0 32 32 box fill page 0 0 32 32 box fill 0 0 9 9 box clip 5 5 to 8 show 3 3 3 3 colour");
+    t.due("fresh", x.fresh(), 1);
+    t.due("all", x.digest(), new Plateroomprinter().digest());
+    for (int k = 0; k < 5; k++) {
+      t.fault(x, 5, "0 0 " + k + " !use");
+      t.fault(x, 5, "!@" + 2 * k);
+    }
+    t.fault(x, 1, "!restore");
+    t.due("run", Checks.run(x, "1 1 2 2 box fill"), 0);
+    t.due("a page of these dots alone", x.count(3), 4);
+    t.due("nothing on the others", x.count(0) + x.count(1) + x.count(2), 0);
+    t.due("the first figure", x.last(1, 1), 0);
   }
 
   private static void knock() {
@@ -384,6 +406,8 @@ public final class CallsTest {
     t.illegalArgument(x, "rule", () -> x.moved(0, 0, -1));
     Plateroomprinter y = t.after("-10 -10 5 5 box");
     t.due("brought onto the page", y.moved(20, 20, 1), 25);
+    Plateroomprinter z = t.after("-2000 -2000 4000 4000 box");
+    t.due("moved beyond what a path may reach", z.moved(40, -40, 1) + z.moved(-40, 40, 0), 2048);
   }
 
   private static void inverse() {
@@ -422,10 +446,37 @@ public final class CallsTest {
     t.outOfBounds(x, "to", () -> x.halves(0, 0, -1, 0));
     t.outOfBounds(x, "to", () -> x.halves(1, 0, 1, 0));
     t.outOfBounds(x, "ahead of what", () -> x.halves(0, 0, 4, 5));
+    t.illegalArgument(x, "to not above from", () -> x.halves(0, 0, 0, 0));
     t.illegalArgument(x, "to not above from", () -> x.halves(0, 2, 2, 0));
     t.illegalArgument(x, "to not above from", () -> x.halves(0, 2, 1, 0));
     t.illegalArgument(x, "what", () -> x.halves(0, 0, 2, 5));
     t.illegalArgument(x, "what", () -> x.halves(0, 0, 2, -1));
+    largeHalves();
+  }
+
+  /** A RING around the whole page, one with the most points, and one that comes just to the MIDDLES. */
+  private static void largeHalves() {
+    int[] due = {1024, 528, 496, 0, 1024};
+    Plateroomprinter x = t.after("0 0 to 32 0 line 32 32 line 0 32 line");
+    for (int what = 0; what <= 4; what++) {
+      t.due("half of the page " + what, x.halves(0, 0, 2, what), due[what]);
+    }
+    Plateroomprinter y = t.after("0 0 to 59 [ 0 1 lineby ] repeat 1 0 lineby 59 [ 0 -1 lineby ] repeat");
+    t.due("120 points", y.ring(0, 0), 120);
+    t.due("a column", y.halves(0, 0, 119, 0), 32);
+    t.due("all of them", y.halves(0, 0, 119, 1), 32);
+    t.due("two of them", y.halves(0, 0, 119, 2), 0);
+    t.due("the lower part", y.halves(0, 16, 103, 1), 16);
+    t.due("the upper part", y.halves(0, 16, 103, 2), 16);
+    t.outOfBounds(y, "no point of it", () -> y.halves(0, 0, 120, 0));
+    Plateroomprinter z = t.after("1 16 1 16 scale 8 8 to 24 8 line 24 24 line 8 24 line");
+    for (int what = 0; what <= 4; what++) {
+      t.due("one dot " + what, z.halves(0, 0, 2, what), what < 2 || what == 4 ? 1 : 0);
+    }
+    Plateroomprinter none = t.after("1 16 1 16 scale 9 9 to 24 9 line 24 24 line 9 24 line");
+    for (int what = 0; what <= 4; what++) {
+      t.due("no dot " + what, none.halves(0, 0, 2, what), 0);
+    }
   }
 
   private static void figure() {

@@ -73,14 +73,14 @@ public final class OrdersTest {
   /** A fault behind changes of all that there is. */
   private static void rollback() {
     String shapes = "1 1 2 2 box 0 keep 3 3 to 4 4 line 4 keep";
-    String figures = "1 2 3 4 colour fill 5 6 7 8 colour 9 9 3 3 box fill 2 2 to 8 1 cap show 16 grey 4 4 9 9 box fill";
+    String figures = "0 0 32 32 box fill 1 2 3 4 colour fill 5 6 7 8 colour 9 9 3 3 box fill 2 2 to 8 1 cap show 16 grey 4 4 9 9 box fill";
     String kept = "2 pen 5 5 to 6 6 line 3 1 3 1 scale 2 3 move save 4 pen 1 turn 0 0 9 9 box clip 7 8 to save";
     Plateroomprinter x = t.after("1 2 /3 [ 4 5 ]", "/0 5 def /9 [ 6 7 8 ] def", shapes, "page " + figures, kept);
     Plateroomprinter y = t.after("1 2 /3 [ 4 5 ]", "/0 5 def /9 [ 6 7 8 ] def", shapes, "page " + figures, kept);
     t.fault(x, UNDER, "pop pop pop pop /0 7 def /9 8 def /1 1 def whole 0 0 32 32 box fill 9 9 to 0 keep 1 keep 4 keep "
         + "restore new restore new 1 pen save save save page 0 grey 5 [ 0 0 32 32 box evenclip fill ] repeat "
         + "3 3 move 1 2 slant 1 cap 1 join 3 size restore !pop");
-    String[] rest = {"do @9 @0", "0 0 0 use 0 0 4 use", "restore", "0 0 4 use 1 cap stroke", "restore restore"};
+    String[] rest = {"do @9 @0", "0 0 0 use 0 0 4 use", "restore", "0 0 4 use 1 cap stroke", "restore", "6 show"};
     for (String text : rest) {
       t.due("run of " + text, Checks.run(x, text), Checks.run(y, text));
       x.wipe();
@@ -625,12 +625,40 @@ public final class OrdersTest {
     t.due("turned y", x.state(10), 32 + 80);
     x = t.after("2 2 to 0 show");
     t.due("the digit 0", x.figure(0, 1), 6);
+    strokesOfDigits();
     t.fault(RANGE, "-1 !show");
     t.fault(POINT, "1 !show");
     t.fault(RANGE, "1999 1 to 3 !show");
     t.fault(RANGE, "1996 1 to 3 !show");
     t.fault(RANGE, "1 1996 to 3 !show");
     t.due("just", t.after("1995 1 to 3 show").state(9), 32000);
+  }
+
+  /** Each digit is the FIGURE of its STROKES, as a PATH of OPEN RINGS gives it too. */
+  private static void strokesOfDigits() {
+    int[][] strokes = {{0, 0, 4, 0}, {4, 0, 4, 3}, {4, 3, 4, 6}, {0, 6, 4, 6}, {0, 3, 0, 6}, {0, 0, 0, 3}, {0, 3, 4, 3},
+        {1, 0, 1, 6}};
+    String[] digits = {"012345", "7", "01346", "01236", "1256", "02356", "023456", "012", "0123456", "012356"};
+    for (int digit = 0; digit < 10; digit++) {
+      StringBuilder path = new StringBuilder();
+      for (char k : digits[digit].toCharArray()) {
+        int[] s = strokes[k - '0'];
+        path.append(2 + 3 * s[0]).append(' ').append(5 + 3 * s[1]).append(" to ");
+        path.append(2 + 3 * s[2]).append(' ').append(5 + 3 * s[3]).append(" line ");
+      }
+      String tools = "2 pen " + digit % 2 + " cap ";
+      Plateroomprinter x = t.after(tools + path + "stroke");
+      Plateroomprinter y = t.after(tools + "2 5 to 3 size " + digit + " show");
+      t.due("sets of " + digit, y.figure(0, 1), x.figure(0, 1));
+      for (int row = 0; row < 32; row++) {
+        t.due("row " + row + " of " + digit, y.row(3, row), x.row(3, row));
+      }
+    }
+    Plateroomprinter x = t.after("2 2 to " + Checks.number(18257) + " show");
+    int[] due = {1, 7, 5, 5, 3};
+    for (int k = 0; k < due.length; k++) {
+      t.due("sets of the digit " + k, x.figure(k, 1), due[k]);
+    }
   }
 
   private static void digitsInWidth() {

@@ -282,6 +282,19 @@ public final class PageBoundsTest {
     needs("@1 0 @1 0 @1 0", "curve", 1, 2);
     needs("@1 0 @1 60 add 0 @1 180 add 0", "curve", 16, 17);
     needs("1 1 0", "use", 2, 2);
+    // As many RINGS as points.
+    String rings = "99 [ 1 1 to ] repeat 20 [ 2 2 to ] repeat ";
+    Plateroomprinter x = t.after(rings + "3 3 to close");
+    t.due("120 rings", x.state(11), 120);
+    t.due("120 points", x.state(12), 120);
+    t.ring(x, 118, 0, 32, 32);
+    t.ring(x, 119, 1, 48, 48);
+    t.fault(x, FULL, "1 1 !to");
+    t.fault(x, FULL, "1 1 !line");
+    t.fault(x, FULL, "1 1 !by");
+    t.outOfBounds(x, "ring 121", () -> x.ring(120, 0));
+    t.due("its sets", t.after("1 cap " + rings + "3 3 to close stroke").figure(0, 1), 239);
+    t.due("all kept and used", t.after(rings + "3 3 to close 0 keep new 1 1 0 use").ring(119, 1), 1);
   }
 
   /** The NAME 1 stands for where the POINT is. */
@@ -398,6 +411,12 @@ public final class PageBoundsTest {
       }
     }
     t.ring(t.after(FINE + "0 0 to 0 0 96 0 288 0 curve"), 0, 0, 0, 0, 18, 0, 72, 0, 162, 0, 288, 0);
+    t.ring(t.after(FINE + "7 9 to 7 9 31 9 79 9 curve"), 0, 0, 7, 9, 25, 9, 79, 9);
+    t.ring(t.after(FINE + "7 9 to 7 9 7 33 7 81 curve"), 0, 0, 7, 9, 7, 27, 7, 81);
+    // Each curve anew.
+    String bent = "0 0 to 0 0 6144 0 9999 0 curve ";
+    t.due("one", t.after(FINE + bent).state(12), 17);
+    t.due("three", t.after(FINE + bent + bent + bent).state(12), 51);
   }
 
   // ---- section 5
@@ -406,7 +425,11 @@ public final class PageBoundsTest {
     Plateroomprinter p = t.after(FINE + text);
     for (int rule = 0; rule < 2; rule++) {
       t.due("dot " + x + " " + y + " of " + text + " by " + rule, p.has(x, y, rule) ? 1 : 0, in ? 1 : 0);
+      t.due("all moved by nothing", p.moved(0, 0, rule), p.dots(rule));
+      t.due("clip", t.after(FINE + text + (rule == 0 ? " evenclip" : " clip")).state(13), p.dots(rule));
+      t.due("fill", t.after(FINE + text + (rule == 0 ? " evenfill" : " fill")).dot(x, y), in ? 8 : 0);
     }
+    t.due("inverse", p.inverse(), 1024 - p.dots(0));
   }
 
   /** "just one of y0 and y1 is no more than Y", and the place at that height "is no more than X". */
@@ -440,6 +463,9 @@ public final class PageBoundsTest {
         dotIs("-9999 0 to -9999 16 line " + lower + "line " + upper + "line", 0, 0, d > 0);
       }
     }
+    // A seventeenth part of a sixteenth too far to the right.
+    dotIs("1 0 to 16 17 line 999 17 line 999 0 line", 0, 0, false);
+    dotIs("1 0 to 15 17 line 999 17 line 999 0 line", 0, 0, true);
     // A sixth of the way, and five sixths of it.
     for (int d = -1; d <= 1; d++) {
       dotIs("0 0 to " + (48 + d) + " 48 line 999 48 line 999 0 line", 0, 0, d <= 0);
@@ -739,6 +765,10 @@ public final class PageBoundsTest {
     t.ring(x, 0, 0, 48, 64);
     x = t.after("1 1 to close 2 keep new 2 3 2 use");
     t.ring(x, 0, 1, 48, 64);
+    // Nothing is left of what was kept before.
+    x = t.after("1 1 to close 2 2 to close 0 keep new 3 3 to 0 keep new 0 0 0 use");
+    t.due("one ring", x.state(11), 1);
+    t.ring(x, 0, 0, 48, 48);
   }
 
   /** "RANGE if one point is beyond -32000 to 32000". */
@@ -764,6 +794,7 @@ public final class PageBoundsTest {
     Plateroomprinter x = t.after("0 keep 5 6 to 2000 9999 0 use");
     t.due("a form without rings", x.state(12), 1);
     t.due("leaves the point", x.state(9), 80);
+    t.due("also where it is no point of the path", t.after("0 keep 5 6 to 1 show 1 1 0 use").state(9), 128);
     t.due("full, and nothing comes", t.after("0 keep " + line(120).replace("0 keep", "1 keep") + "1 1 0 use").state(12), 120);
   }
 
