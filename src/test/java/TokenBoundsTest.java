@@ -173,6 +173,18 @@ public final class TokenBoundsTest {
     // It is the first one that is met: a CLOSE that is missing is not looked for ahead of its OPEN.
     t.fault(UNDER, "!pop [");
     t.fault(BRACE, repeated("3", 40) + "![");
+    // A CLOSE that went is none, be it dropped, wiped, or one of a program that ran.
+    Plateroomprinter y = new Plateroomprinter();
+    Checks.write(y, "[ 1 ]");
+    t.due("drop", y.drop(), 5);
+    t.due("a run without the close", y.run(), BRACE);
+    t.due("its place", y.fault(1), 0);
+    t.due("wipe", y.wipe(), 2);
+    Checks.write(y, "1 2 ]");
+    t.due("wipe", y.wipe(), 3);
+    t.fault(y, BRACE, "1 ![");
+    t.due("a run", Checks.run(y, "5 [ 6 ]"), 0);
+    t.fault(y, BRACE, "![ 6");
     Plateroomprinter x = new Plateroomprinter();
     for (int k = 0; k < 200; k++) {
       x.token(4, 0);
